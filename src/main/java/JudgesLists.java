@@ -512,23 +512,33 @@ public final class JudgesLists {
          * they are if the last one of them is AHEAD of all others.
          */
         boolean isSure(int k) {
+            int last = chooseByLow(k);
+            if (last == NONE) {
+                return false;
+            }
+            for (int thing = 0; thing < board.things; thing++) {
+                if (!isFound(thing) && !comesFirst(last, lows[last], thing, highOf(thing))) {
+                    return false;
+                }
+            }
+            return true;
+        }
+
+        /** Puts the k THINGS that come first by LOW into foundBits: the last one of them. */
+        private int chooseByLow(int k) {
             for (int thing = 0; thing < board.things; thing++) {
                 lows[thing] = lowOf(thing);
             }
             foundBits = 0;
             int last = NONE;
             for (int i = 0; i < Math.min(k, board.things); i++) {
-                last = firstByLow();
+                last = firstLeftByLow();
                 foundBits |= 1 << last;
             }
-            return last != NONE && isAheadOfRest(last);
+            return last;
         }
 
-        private boolean isFound(int thing) {
-            return (foundBits >> thing & 1) == 1;
-        }
-
-        private int firstByLow() {
+        private int firstLeftByLow() {
             int first = NONE;
             for (int thing = 0; thing < board.things; thing++) {
                 if (!isFound(thing) && (first == NONE || lows[thing] > lows[first])) {
@@ -538,13 +548,8 @@ public final class JudgesLists {
             return first;
         }
 
-        private boolean isAheadOfRest(int last) {
-            for (int thing = 0; thing < board.things; thing++) {
-                if (!isFound(thing) && !comesFirst(last, lows[last], thing, highOf(thing))) {
-                    return false;
-                }
-            }
-            return true;
+        private boolean isFound(int thing) {
+            return (foundBits >> thing & 1) == 1;
         }
 
         int foundAt(int i) {
@@ -597,7 +602,10 @@ public final class JudgesLists {
             rounds++;
             for (int list = 0; list < board.lists && !done; list++) {
                 if (!sight.isWhole(list)) {
-                    seeNextPlace(list);
+                    int thing = seeNextPlace(list);
+                    if (kind == THRESHOLD) {
+                        lookUpEverywhere(thing);
+                    }
                 }
             }
             if (kind == MIXED && !done && step > 0 && rounds % step == 0) {
@@ -608,14 +616,13 @@ public final class JudgesLists {
             }
         }
 
-        private void seeNextPlace(int list) {
+        /** The THING there. */
+        private int seeNextPlace(int list) {
             int thing = board.rows[list][sight.depths[list]];
             sight.depths[list]++;
             cost += board.downs[list];
             done = sight.isSure(wanted);
-            if (kind == THRESHOLD) {
-                lookUpEverywhere(thing);
-            }
+            return thing;
         }
 
         private void lookUpEverywhere(int thing) {

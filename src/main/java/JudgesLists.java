@@ -436,7 +436,6 @@ public final class JudgesLists {
                 depths[list] = 0;
                 lookedUp[list] = 0;
             }
-            foundBits = 0;
         }
 
         void noteLookUp(int list, int thing) {
@@ -512,6 +511,9 @@ public final class JudgesLists {
          * they are if the last one of them is AHEAD of all others.
          */
         boolean isSure(int k) {
+            for (int thing = 0; thing < board.things; thing++) {
+                lows[thing] = lowOf(thing);
+            }
             int last = chooseByLow(k);
             if (last == NONE) {
                 return false;
@@ -526,9 +528,6 @@ public final class JudgesLists {
 
         /** Puts the k THINGS that come first by LOW into foundBits: the last one of them. */
         private int chooseByLow(int k) {
-            for (int thing = 0; thing < board.things; thing++) {
-                lows[thing] = lowOf(thing);
-            }
             foundBits = 0;
             int last = NONE;
             for (int i = 0; i < Math.min(k, board.things); i++) {

@@ -32,6 +32,7 @@ public final class PromisesTest {
         promise25Count();
         whatEndsTheReader();
         whatKeepsTheReader();
+        allAtTheirMost();
         checks.end();
     }
 
@@ -326,6 +327,8 @@ public final class PromisesTest {
         due("MIXED: no other one", x.known(1, 2), 0);
         due("MIXED: COST", x.reader(5), 21);
         mixedStopsBehindALookUp();
+        mixedTakesTheGreatestHigh();
+        noLookingUpWithoutUp();
     }
 
     private static void mixedStopsBehindALookUp() {
@@ -347,6 +350,52 @@ public final class PromisesTest {
         due("the second one is not KNOWN", x.known(2, 0), 0);
         due("COST with UP 3", x.reader(5), 6);
         due("FOUND without its own MARK", x.found(0), 1);
+    }
+
+    private static void mixedTakesTheGreatestHigh() {
+        JudgesLists x = withThings(3);
+        int[][] marks = {{450, 100, 500}, {400, 300, 50}};
+        for (int list = 0; list < 2; list++) {
+            x.list(1, 1, 1);
+            for (int thing = 0; thing < 3; thing++) {
+                x.mark(list, thing, marks[list][thing]);
+            }
+        }
+        x.begin(2, 2, 2);
+        due("h 2: first round()", x.round(), 0);
+        due("h 2: not looked UP in the first", x.reader(4), 0);
+        due("h 2: second round()", x.round(), 0);
+        // HIGH 850, 750, 800, and all of THING 0 is KNOWN.
+        due("h 2: looked UP in the second", x.reader(4), 1);
+        due("h 2: THING 2 is looked UP", x.known(1, 2), 1);
+        due("h 2: THING 1 is not", x.known(0, 1), 0);
+        due("h 2: COST", x.reader(5), 5);
+        due("h 2: third round()", x.round(), 1);
+        due("h 2: places", x.reader(3), 5);
+        due("h 2: found(1)", x.found(1), 2);
+    }
+
+    /** The first LIST has UP 0: what it says of THING 1 is seen at its place only. */
+    private static void noLookingUpWithoutUp() {
+        JudgesLists x = withThings(2);
+        x.list(1, 1, 0);
+        x.list(1, 1, 2);
+        x.mark(0, 0, 10);
+        x.mark(0, 1, 5);
+        x.mark(1, 0, 1);
+        x.mark(1, 1, 8);
+        for (int kind = 1; kind <= 2; kind++) {
+            String of = "UP 0, KIND " + kind + ": ";
+            x.begin(kind, 1, kind - 1);
+            due(of + "round()", x.round(), 0);
+            due(of + "looked UP", x.reader(4), 1);
+            due(of + "COST", x.reader(5), 4);
+            due(of + "known(0, 1)", x.known(0, 1), 0);
+            due(of + "known(1, 0)", x.known(1, 0), 1);
+            due(of + "finish()", x.finish(), 1);
+            due(of + "COST at the end", x.reader(5), 5);
+            due(of + "found(0)", x.found(0), 1);
+        }
     }
 
     private static void promise15Finish() {
@@ -526,9 +575,25 @@ public final class PromisesTest {
         x.round();
         due("what a READER looked UP is not used", x.enough(1, 2, 1, 1, 0), 0);
         due("the READER stays as it was", x.depth(0, 0), 1);
+        eachDepthCounts();
         due("no LISTS", withThings(2).enough(1, 0, 0, 0, 0), 1);
         due("no LISTS, a DEPTH", withThings(2).enough(1, 1, 0, 0, 0), BAD);
         due("no THINGS", new JudgesLists().enough(1, 0, 0, 0, 0), BAD);
+    }
+
+    /** By GREATEST each of four LISTS alone shows THING 0 with 1000. */
+    private static void eachDepthCounts() {
+        JudgesLists x = withThings(2);
+        x.rule(2);
+        for (int list = 0; list < 4; list++) {
+            x.list(1, 1, 0);
+            x.mark(list, 0, 1000);
+        }
+        due("enough(1, 1, 0, 0, 0)", x.enough(1, 1, 0, 0, 0), 1);
+        due("enough(1, 0, 1, 0, 0)", x.enough(1, 0, 1, 0, 0), 1);
+        due("enough(1, 0, 0, 1, 0)", x.enough(1, 0, 0, 1, 0), 1);
+        due("enough(1, 0, 0, 0, 1)", x.enough(1, 0, 0, 0, 1), 1);
+        due("enough(1, 0, 0, 0, 0)", x.enough(1, 0, 0, 0, 0), 0);
     }
 
     private static void promise23Least() {
@@ -586,6 +651,7 @@ public final class PromisesTest {
         x.least(4);
         dueDepths(x, 0, 0, 0, 0);
         JudgesLists alike = eitherListDoes(3, 3);
+        alike.enough(1, 1, 0, 0, 0);
         due("alike COSTS", alike.least(1), 3);
         dueDepths(alike, 0, 1, 0, 0);
         JudgesLists cheaper = eitherListDoes(2, 3);
@@ -663,5 +729,38 @@ public final class PromisesTest {
         x.best(0);
         due("questions keep the READER", x.reader(3), 3);
         due("and it works on", x.round(), 1);
+    }
+
+    /** 20 THINGS in 4 LISTS that say the same, 1000, 990, .. 810, with all WEIGHTS and PRICES at their most. */
+    private static void allAtTheirMost() {
+        JudgesLists x = withThings(20);
+        for (int list = 0; list < 4; list++) {
+            x.list(10, 100, 100);
+            for (int thing = 0; thing < 20; thing++) {
+                x.mark(list, thing, 1000 - 10 * thing);
+            }
+        }
+        due("most: count(2)", x.count(2), 80);
+        due("most: total(19)", x.total(19), 32400);
+        due("most: best(19)", x.best(19), 19);
+        due("most: least(1)", x.least(1), STATE);
+        due("most: enough(1, 1, 1, 1, 1)", x.enough(1, 1, 1, 1, 1), 1);
+        due("most: enough(19, 20, 20, 20, 20)", x.enough(19, 20, 20, 20, 20), 1);
+        due("most: enough(1, 20, 20, 20, 21)", x.enough(1, 20, 20, 20, 21), BAD);
+        // KIND, k, h; then ROUNDS, places, looked UP, COST, THINGS.
+        int[][] readers = {{0, 1, 0, 1, 4, 0, 400, 1}, {1, 1, 0, 1, 1, 3, 400, 1},
+            {0, 19, 0, 19, 76, 0, 7600, 19}, {2, 19, 10, 19, 76, 0, 7600, 19}};
+        for (int[] r : readers) {
+            String of = "most, KIND " + r[0] + ", k " + r[1] + ": ";
+            due(of + "begin", x.begin(r[0], r[1], r[2]), 0);
+            due(of + "HIGH", x.bound(19, 1), 40000);
+            due(of + "finish()", x.finish(), r[3]);
+            due(of + "places", x.reader(3), r[4]);
+            due(of + "looked UP", x.reader(4), r[5]);
+            due(of + "COST", x.reader(5), r[6]);
+            due(of + "THINGS", x.reader(7), r[7]);
+            due(of + "the last one FOUND", x.found(r[1] - 1), r[1] - 1);
+        }
+        due("most: begin(2, 20, 10)", x.begin(2, 20, 10), 1);
     }
 }

@@ -1,11 +1,17 @@
 /** Counts the answers of one test and tells the wrong ones. */
 final class Checks {
     private final String name;
+    private String place = "";
     private int right;
     private int wrong;
 
     Checks(String name) {
         this.name = name;
+    }
+
+    /** What is checked from here on belongs to this place of the document. */
+    void under(String place) {
+        this.place = place + ": ";
     }
 
     void due(String call, long got, long want) {
@@ -14,7 +20,7 @@ final class Checks {
             return;
         }
         wrong++;
-        System.out.println(name + ": " + call + " answered " + got + ", due is " + want);
+        System.out.println(name + ": " + place + call + " answered " + got + ", due is " + want);
     }
 
     void holds(String what, boolean so) {
@@ -23,6 +29,10 @@ final class Checks {
 
     boolean anyWrong() {
         return wrong != 0;
+    }
+
+    int made() {
+        return right + wrong;
     }
 
     void end() {

@@ -1,25 +1,16 @@
-import java.lang.reflect.Method;
-import java.lang.reflect.Modifier;
-import java.util.Arrays;
-import java.util.HashMap;
-import java.util.Map;
 import java.util.Random;
 
 /** Runs of calls by a fixed seed, on the class and on the plain telling of the document. */
 public final class ComparisonTest {
-    private static final int RUNS = 1500;
-    private static final int MOST_CALLS = 512;
+    private static final int RUNS = 1000;
+    /** As many calls as one turn may make. */
+    private static final int TURN = 5;
     private static final Checks checks = new Checks("ComparisonTest");
-    private static final Map<String, Method> OF_CLASS = methodsOf(JudgesLists.class);
-    private static final Map<String, Method> OF_PLAIN = methodsOf(PlainJudges.class);
 
     private final Random dice;
-    private final JudgesLists x = new JudgesLists();
-    private final PlainJudges plain = new PlainJudges();
-    private final StringBuilder story = new StringBuilder();
+    private final Pair pair = new Pair(checks);
     private final int mostThings;
     private final int mostMark;
-    private int calls;
 
     private ComparisonTest(int seed) {
         dice = new Random(seed);
@@ -33,7 +24,7 @@ public final class ComparisonTest {
             ComparisonTest run = new ComparisonTest(seed);
             run.play();
             if (checks.anyWrong()) {
-                System.out.println("seed " + seed + ":\n" + run.story);
+                System.out.println("seed " + seed + ":\n" + run.pair.story());
             }
         }
         checks.end();
@@ -41,7 +32,7 @@ public final class ComparisonTest {
 
     private void play() {
         build();
-        while (calls < MOST_CALLS - 60 && !checks.anyWrong()) {
+        while (pair.callsLeft() >= TURN && !checks.anyWrong()) {
             int choice = dice.nextInt(100);
             if (choice < 12) {
                 change();
@@ -90,16 +81,16 @@ public final class ComparisonTest {
 
     private void newReader() {
         int kind = number(0, 2);
-        int k = dice.nextInt(3) == 0 ? number(1, x.count(0)) : number(1, 2);
+        int k = dice.nextInt(3) == 0 ? number(1, pair.plain.count(0)) : number(1, 2);
         call("begin", kind, k, kind == 2 ? number(1, 4) : number(0, 0));
     }
 
     private void tryDepths() {
         int[] d = new int[4];
         for (int list = 0; list < 4; list++) {
-            d[list] = number(0, Math.max(0, x.about(list, 3)));
+            d[list] = number(0, Math.max(0, pair.plain.about(list, 3)));
         }
-        int k = number(1, Math.max(1, x.count(0)));
+        int k = number(1, Math.max(1, pair.plain.count(0)));
         if (dice.nextInt(3) > 0) {
             call("enough", k, d[0], d[1], d[2], d[3]);
             return;
@@ -129,11 +120,11 @@ public final class ComparisonTest {
     }
 
     private int aThing() {
-        return number(0, Math.max(0, x.count(0) - 1));
+        return number(0, Math.max(0, pair.plain.count(0) - 1));
     }
 
     private int aList() {
-        return number(0, Math.max(0, x.count(1) - 1));
+        return number(0, Math.max(0, pair.plain.count(1) - 1));
     }
 
     /** Mostly within the range, now and then just outside of it or far away. */
@@ -143,27 +134,6 @@ public final class ComparisonTest {
     }
 
     private void call(String name, int... numbers) {
-        calls++;
-        String told = name + Arrays.toString(numbers);
-        story.append(told).append('\n');
-        checks.due(told, answer(OF_CLASS, x, name, numbers), answer(OF_PLAIN, plain, name, numbers));
-    }
-
-    private static int answer(Map<String, Method> methods, Object object, String name, int[] numbers) {
-        try {
-            return (Integer) methods.get(name).invoke(object, Arrays.stream(numbers).boxed().toArray());
-        } catch (ReflectiveOperationException e) {
-            throw new IllegalStateException(name + Arrays.toString(numbers), e);
-        }
-    }
-
-    private static Map<String, Method> methodsOf(Class<?> type) {
-        Map<String, Method> methods = new HashMap<>();
-        for (Method method : type.getDeclaredMethods()) {
-            if (!Modifier.isPrivate(method.getModifiers()) && !method.isSynthetic()) {
-                methods.put(method.getName(), method);
-            }
-        }
-        return methods;
+        pair.call(name, numbers);
     }
 }

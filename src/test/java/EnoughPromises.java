@@ -90,6 +90,8 @@ final class EnoughPromises {
     private void least() {
         World x = s.small().due("least(1)", 14).due("least(2)", 14).due("least(3)", 0);
         x.due("count(4)", 0);
+        // 1, 2 is ENOUGH and comes first, but costs 21.
+        s.world(2).judge(1, 1, 0, 5, 9).judge(1, 10, 0, 7, 8).due("enough(1, 1, 2, 0, 0)", 1).due("least(1)", 12);
         // Nothing to be SEEN: without LISTS, with empty ROWS, with WEIGHT 0.
         s.world(2).due("least(1)", 0).judge(1, 9, 1).due("least(1)", 0).judge(0, 9, 1, 3, 4).due("least(1)", 0)
             .due("weigh(1, 1)", 0).due("least(1)", 18);

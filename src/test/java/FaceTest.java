@@ -19,7 +19,8 @@ public final class FaceTest {
         "known(II)", "bound(II)", "ahead(II)", "found(I)", "enough(IIIII)", "least(I)", "leastDepth(I)", "count(I)");
     private static final List<String> FORBIDDEN = List.of(
         "\\bthrow\\b", "\\btry\\b", "\\bcatch\\b", "\\bsynchronized\\b", "\\bassert\\b", "\\bpackage\\b",
-        "\\bimport (?!java\\.util\\.(ArrayList|List|Arrays|Iterator);)", "->", "::", "Exact\\b", "\\bstatic \\{", "\\bprotected\\b");
+        "\\bimport (?!java\\.util\\.(ArrayList|List|Arrays|Iterator);)", "->", "::", "Exact\\b",
+        "\\bstatic \\{", "\\bprotected\\b");
     private static final Checks checks = new Checks("FaceTest");
 
     public static void main(String[] args) throws IOException {

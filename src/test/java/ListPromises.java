@@ -180,6 +180,7 @@ final class ListPromises {
     private void weighBad() {
         s.refused(s::midway, BAD, Sentences.outside("weigh(0, #)", 0, 10));
         s.refused(s::done, BAD, Sentences.outside("weigh(1, #)", 0, 10));
+        s.small().due("weigh(0, 0)", 2).due("weigh(0, 10)", 0).all(BAD, "weigh(0, 11)", "weigh(0, -1)").due("about(0, 0)", 10);
     }
 
     private void rule() {

@@ -189,6 +189,7 @@ final class ReaderPromises {
         }
         x.due("finish()", 10).due("reader(2)", 20).due("round()", STATE).due("reader(2)", 20);
         s.small().due("begin(0, 3, 0)", 1).due("reader(2)", 0);
+        s.small().due("begin(1, 1, 0)", 0).due("round()", 0).due("reader(2)", 1).due("round()", 1).due("reader(2)", 2);
     }
 
     private void readerPlaces() {

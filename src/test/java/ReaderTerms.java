@@ -159,6 +159,8 @@ final class ReaderTerms {
             x.due("round()", 0).each("bound(#, 1)", behindRound1[rule]);
             x.due("round()", 1).each("bound(#, 1)", behindRound2[rule]);
         }
+        // THINGS 1 and 2 were looked UP: what is KNOWN is less than the TOP.
+        s.midway().each("depth(#, 1)", 30, 40).each("bound(#, 1)", 100, 75, 80);
         World most = s.world(1);
         for (int list = 0; list < 4; list++) {
             most.judge(10, 1, 0, 1);
@@ -313,6 +315,9 @@ final class ReaderTerms {
         World y = s.world(4).judge(1, 1, 1, 90, 500, 100, 450).judge(1, 1, 1, 60, 50, 300, 400).due("begin(2, 2, 2)", 0);
         y.due("round()", 0).due("round()", 0).due("reader(4)", 1);
         y.each("known(0, #)", 0, 1, 0, 1).each("known(1, #)", 0, 1, 1, 1);
+        // HIGH 140, 111, 101, 101, but LOW 50, 100, 11, 90.
+        World w = s.world(4).judge(1, 1, 1, 50, 5, 11, 4).judge(1, 1, 1, 20, 100, 10, 90).due("begin(2, 1, 2)", 0);
+        w.due("round()", 0).due("round()", 0).due("reader(4)", 1).each("known(0, #)", 1, 0, 1, 0).each("known(1, #)", 1, 1, 0, 1);
         // By LEAST the greatest HIGH is 0: THINGS 0 and 3 are not in the first ROW, and of 1 and 2 nothing can be looked UP.
         World z = s.world(4).run("rule(1)").judge(1, 1, 0, 0, 50, 40).judge(1, 1, 0, 90, 10, 20, 80).judge(1, 1, 1, 5, 60, 50, 4);
         z.due("begin(2, 1, 2)", 0).due("round()", 0).due("round()", 0).each("bound(#, 1)", 0, 50, 40, 0);
@@ -439,7 +444,8 @@ final class ReaderTerms {
     }
 
     private void toldNoLonger() {
-        String[] changes = {"thing()", "list(1, 1, 1)", "mark(0, 0, 11)", "mark(1, 0, 1)", "unmark(0, 0)", "weigh(0, 3)", "rule(1)"};
+        String[] changes = {"thing()", "list(1, 1, 1)", "mark(0, 0, 11)", "mark(1, 0, 1)", "unmark(0, 0)", "weigh(0, 3)",
+            "rule(1)"};
         for (String change : changes) {
             for (World x : new World[] {s.midway(), s.done()}) {
                 x.run(change).due("count(4)", 0).each("reader(#)", NONE, NONE, NONE, NONE, NONE, NONE, NONE, NONE);

@@ -9,18 +9,13 @@ import java.util.Arrays;
 import java.util.List;
 import java.util.Set;
 import java.util.TreeSet;
-import java.util.regex.Pattern;
 
-/** The document's face, and those rules of LANGUAGE.md that can be read off the class or its text. */
+/** The document's face: all of it is there, and nothing else can be seen. */
 public final class FaceTest {
     private static final List<String> METHODS = List.of(
         "thing()", "list(III)", "mark(III)", "unmark(II)", "weigh(II)", "rule(I)", "about(II)", "row(II)",
         "place(III)", "total(I)", "best(I)", "begin(III)", "round()", "finish()", "reader(I)", "depth(II)",
         "known(II)", "bound(II)", "ahead(II)", "found(I)", "enough(IIIII)", "least(I)", "leastDepth(I)", "count(I)");
-    private static final List<String> FORBIDDEN = List.of(
-        "\\bthrow\\b", "\\btry\\b", "\\bcatch\\b", "\\bsynchronized\\b", "\\bassert\\b", "\\bpackage\\b",
-        "\\bimport (?!java\\.util\\.(ArrayList|List|Arrays|Iterator);)", "->", "::", "Exact\\b",
-        "\\bstatic \\{", "\\bprotected\\b");
     private static final Checks checks = new Checks("FaceTest");
 
     public static void main(String[] args) throws IOException {
@@ -28,7 +23,8 @@ public final class FaceTest {
         methods();
         nothingElseIsSeen();
         classesInside();
-        text(Files.readString(Path.of(System.getProperty("source", "src/main/java/JudgesLists.java"))));
+        sameAsInTheDocument(Path.of(System.getProperty("document", "../shared/DOC.md")),
+            Path.of(System.getProperty("source", "src/main/java/JudgesLists.java")));
         checks.end();
     }
 
@@ -86,11 +82,25 @@ public final class FaceTest {
         }
     }
 
-    private static void text(String source) {
-        String code = source.replaceAll("(?s)/\\*.*?\\*/", "").replaceAll("//[^\n]*", "");
-        code = code.replaceAll("(case [^;{}]*?|default) ->", "");
-        for (String word : FORBIDDEN) {
-            checks.holds("the text is free of " + word, !Pattern.compile(word).matcher(code).find());
+    /** Each line of the document's code block stands in the class, in the same order, and no other one is public. */
+    private static void sameAsInTheDocument(Path document, Path source) throws IOException {
+        if (!Files.isReadable(document)) {
+            System.out.println("FaceTest: " + document + " cannot be read: the face is not compared with it");
+            return;
         }
+        String text = Files.readString(document);
+        int from = text.indexOf("```java\n") + "```java\n".length();
+        List<String> due = publicLines(text.substring(from, text.indexOf("```", from)));
+        List<String> got = publicLines(Files.readString(source));
+        checks.due("lines of the face", got.size(), due.size());
+        for (int i = 0; i < Math.min(got.size(), due.size()); i++) {
+            checks.holds("\"" + got.get(i) + "\" is \"" + due.get(i) + "\" in the document", got.get(i).equals(due.get(i)));
+        }
+    }
+
+    /** What begins a body or ends a line is left out: "{" here is ";" there. */
+    private static List<String> publicLines(String text) {
+        return text.lines().map(String::strip).filter(line -> line.startsWith("public "))
+            .map(line -> line.replaceAll("\\s*[;{]$", "")).toList();
     }
 }
